@@ -1,0 +1,21 @@
+/** Counts the answers of one test that are not the ones that are due. */
+final class Check {
+    private int asked = 0;
+    private int wrong = 0;
+
+    void due(String what, long got, long want) {
+        asked++;
+        if (got != want) {
+            wrong++;
+            System.out.println(what + " answered " + got + ", due is " + want);
+        }
+    }
+
+    /** Ends the test: exit code 1 if an answer was wrong. */
+    void end(String test) {
+        System.out.println(test + ": " + asked + " answers, " + wrong + " wrong");
+        if (wrong != 0 || asked == 0) {
+            System.exit(1);
+        }
+    }
+}
