@@ -237,6 +237,8 @@ public final class HandsAndIdeasTest {
         x.idea(0, 0, 3, 9);
         due("10: alone", x.share(0), 1000);
         x.idea(0, 0, 3, 0);
+        due("10: the head of two", x.share(0), 600);
+        due("10: the other of two", x.share(1), 400);
         x.idea(0, 0, 3, 1);
         x.idea(0, 0, 3, 3);
         due("10: 1 of 7", x.share(1), 57);

@@ -96,6 +96,9 @@ public final class WorksTest {
         due("24: found", x.ledBack(0), 0);
         due("24: none", x.ledBack(1), -9);
         due("24: no such work", x.ledBack(2), -9);
+        x.work(0, 7);
+        due("24: found by a later work", x.ledBack(2), 0);
+        due("24: no such work", x.ledBack(3), -9);
         due("24: below", x.ledBack(-1), -9);
         due("24: far above", x.ledBack(Integer.MAX_VALUE), -9);
         x.reopen(0);
