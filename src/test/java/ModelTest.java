@@ -2,7 +2,7 @@ import java.util.Random;
 
 /** Long runs of calls with ordinary, edge and wild arguments: each answer is the one of PlainModel. */
 public final class ModelTest {
-    private static final int RUNS = 600;
+    private static final int RUNS = 800;
     private static final int CALLS = 512;
     private static final int[] WILD = {Integer.MIN_VALUE, -1000, -2, -1, 0, 1, 40, 41, 65535, 65536, 100001, Integer.MAX_VALUE};
     private static final String[] NAMES = {"hand", "kin", "idea", "team", "set", "like", "family", "head", "share",
@@ -34,7 +34,7 @@ public final class ModelTest {
             new ModelTest(seed).run(seed, check, paidRuns);
         }
         // Runs that never pay would show nothing of PAY.
-        check.due("many runs pay", paidRuns[0] > RUNS / 3 ? 1 : 0, 1);
+        check.due("many runs pay", paidRuns[0] > RUNS / 4 ? 1 : 0, 1);
         System.out.println(paidRuns[0] + " of " + RUNS + " runs pay");
         check.end("ModelTest");
     }
@@ -43,7 +43,8 @@ public final class ModelTest {
         IdeaWorks x = new IdeaWorks();
         PlainModel model = new PlainModel();
         boolean paid = false;
-        for (int n = 0; n < CALLS; n++) {
+        boolean comparing = seed % 2 == 1;
+        for (int n = 0; n < CALLS - (comparing ? callsToCompare() : 0); n++) {
             int call = n < OPENING.length ? OPENING[n] : pickCall();
             int[] a = arguments(call);
             int want = model.answer(call, a[0], a[1], a[2], a[3]);
@@ -58,8 +59,15 @@ public final class ModelTest {
                 paid |= want > 0;
             }
         }
-        compareAll(seed, x, model, check);
+        if (comparing) {
+            compareAll(seed, x, model, check);
+        }
         paidRuns[0] += paid ? 1 : 0;
+    }
+
+    /** An object has 512 calls: a run that is compared in the end must leave as many. */
+    private int callsToCompare() {
+        return 6 * ideas + 2 * hands + 19;
     }
 
     private void compareAll(int seed, IdeaWorks x, PlainModel model, Check check) {
