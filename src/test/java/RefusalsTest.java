@@ -321,7 +321,7 @@ public final class RefusalsTest {
         CHECK.due(story.name + ": thousands of calls", told > 5000 ? 1 : 0, 1);
     }
 
-    /** Of the refused choices some sixty at most, from all over. */
+    /** Of the refused choices all, or some sixty and more from all over: each is asked about by hundreds of calls. */
     private static List<int[]> thinned(Call call, Story story) {
         List<int[]> refused = new ArrayList<>();
         for (int[] a : choices(call.edges.apply(story))) {
