@@ -7,6 +7,7 @@ import java.nio.file.Files;
 import java.nio.file.Path;
 import java.util.Set;
 import java.util.TreeSet;
+import java.util.regex.Matcher;
 import java.util.regex.Pattern;
 
 /** The public face, and the rules of LANGUAGE.md that can be looked at by a program. */
@@ -22,12 +23,17 @@ public final class LanguageTest {
     private static final String[] NOT_ALLOWED = {"\\bthrow\\b", "\\bthrows\\b", "\\btry\\b", "\\bcatch\\b",
         "\\bsynchronized\\b", "\\bassert\\b", "\\bpackage\\b", "\\bimport\\b", "->", "::", "Exact\\b", "\\bwhile \\(true\\)",
         "for \\(;;\\)", "\\bSystem\\.(?!arraycopy)", "\\bThread\\b", "\\bstatic \\{", "\\bprotected\\b"};
+    private static final Set<String> LIBRARY = Set.of("Math.max", "Math.min", "Integer.bitCount", "Long.bitCount");
 
     public static void main(String[] args) throws IOException {
         faceIsTheDocuments();
         membersAreHidden();
         namesAreNotTwice();
-        sourceKeepsToTheRules();
+        String source = sourceWithoutComments();
+        sourceKeepsToTheRules(source);
+        libraryIsTheListed(source);
+        methodsAreShort(source);
+        nothingIsMadeByACall(source);
         CHECK.end("LanguageTest");
     }
 
@@ -101,11 +107,58 @@ public final class LanguageTest {
         }
     }
 
-    private static void sourceKeepsToTheRules() throws IOException {
-        String source = Files.readString(SOURCE).replaceAll("(?s)/\\*.*?\\*/", "").replaceAll("//.*", "");
+    private static String sourceWithoutComments() throws IOException {
+        return Files.readString(SOURCE).replaceAll("(?s)/\\*.*?\\*/", "").replaceAll("//.*", "");
+    }
+
+    private static void sourceKeepsToTheRules(String source) {
         for (String word : NOT_ALLOWED) {
             holds("no " + word, !Pattern.compile(word).matcher(source).find());
         }
         holds("signs 1 to 127", source.chars().allMatch(c -> c >= 1 && c <= 127));
+    }
+
+    /** Rule 4: whatever is asked of a class by its name is the class's own, or on this list. */
+    private static void libraryIsTheListed(String source) {
+        Set<String> own = new TreeSet<>();
+        for (Class<?> c : IdeaWorks.class.getDeclaredClasses()) {
+            own.add(c.getSimpleName());
+        }
+        Matcher used = Pattern.compile("\\b([A-Z][a-z]\\w*)\\.(\\w+)").matcher(source);
+        while (used.find()) {
+            holds(used.group() + " may be used", own.contains(used.group(1)) || LIBRARY.contains(used.group()));
+        }
+    }
+
+    /** Rule 11: some sixty lines; what begins a method ends at the next brace that is as far in. */
+    private static void methodsAreShort(String source) {
+        Matcher begun = Pattern.compile("(?m)^( ++)(?!(?:if|for|while|switch|else)\\b)[\\w \\[\\]]+\\([^()]*\\) \\{$").matcher(source);
+        int found = 0;
+        while (begun.find()) {
+            int end = source.indexOf("\n" + begun.group(1) + "}", begun.end());
+            holds(begun.group().trim() + " is short", end >= 0 && source.substring(begun.start(), end).lines().count() <= 60);
+            found++;
+        }
+        holds("every method was looked at: " + found, found == ownMethods());
+    }
+
+    private static int ownMethods() {
+        // Constructors that are written down: the public one, and the one of Families.
+        int many = 2 + IdeaWorks.class.getDeclaredMethods().length;
+        for (Class<?> c : IdeaWorks.class.getDeclaredClasses()) {
+            many += c.getDeclaredMethods().length;
+        }
+        return many;
+    }
+
+    /** Rule 12 and the one room: objects and arrays are made with the works, never by a call. */
+    private static void nothingIsMadeByACall(String source) {
+        int from = source.indexOf("public IdeaWorks() {");
+        String rest = source.substring(0, from) + source.substring(source.indexOf("\n    }", from));
+        for (String line : rest.split("\n")) {
+            boolean makes = line.contains("new ") || line.contains("= {") || line.contains(".clone()");
+            holds("a field's first value, or nothing new: " + line.trim(), !makes || line.matches(" +(private )?(static )?final .*;"));
+        }
+        holds("no text", !source.contains("\"") && !source.contains("String"));
     }
 }
